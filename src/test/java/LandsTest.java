@@ -115,6 +115,11 @@ public final class LandsTest {
         fault("d4;h,1;", 3);
         fault("d4;h1,;", 3);
         fault("d4;h001,1;", 3);
+        // the sign behind 9 is no figure, though it would be a 10
+        fault("d4;h:,1;", 3);
+        fault("d4;h0:,1;", 3);
+        fault("d4;h1,:;", 3);
+        fault("d4;h/1,1;", 3);
         fault("d4;h1,001;", 3);
         fault("d4; h1,1;", 3);
         fault("d4;h1, 1;", 3);

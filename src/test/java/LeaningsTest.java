@@ -14,6 +14,7 @@ public final class LeaningsTest {
         stormsRefused();
         marchLost();
         marchHome();
+        sixMen();
         marchRefused();
         keepAndBack();
         whatIsNotKept();
@@ -175,6 +176,29 @@ public final class LeaningsTest {
         // the home of the left boot
         BootsTurnHome left = Check.laid("h8,8;h1,1;m8,8,0,1,0,3;");
         Check.due("march(0, 3, 1)", left.march(0, 3, 1), 0);
+    }
+
+    private static void sixMen() {
+        String man = "m8,8,0,0,0,3;";
+        BootsTurnHome boots = Check.laid("h1,1;" + man.repeat(5) + "m8,14,0,0,0,0;");
+        Check.due("count(5)", boots.count(5), 1);
+        Check.due("order(4, 1)", boots.order(4, 1), 1);
+        Check.due("place of 5", Check.place(boots, 5), 81505);
+        Check.due("strays(1)", boots.strays(1), 32);
+        Check.due("lean(0)", boots.lean(0), 4);
+        Check.due("lean(1)", boots.lean(1), 5);
+        Check.due("march(0, 40, 1)", boots.march(0, 40, 1), 0);
+        Check.due("pairs(-1)", boots.pairs(-1), 0);
+        // only the last one is home
+        BootsTurnHome last = Check.laid("h8,8;h1,1;" + "m8,8,0,1,1,3;".repeat(5) + "m8,8,0,0,0,3;");
+        Check.due("march(0, 4, 1)", last.march(0, 4, 1), 3);
+        // fewer men than were there
+        boots.wipe();
+        Check.append(boots, "h1,1;m15,15,4,0,0,3;");
+        Check.due("lay()", boots.lay(), 1);
+        Check.due("lean(1)", boots.lean(1), 1);
+        Check.due("count(5)", boots.count(5), 0);
+        Check.due("pairs(1)", boots.pairs(1), BAD);
     }
 
     private static void marchRefused() {

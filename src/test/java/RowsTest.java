@@ -143,8 +143,10 @@ public final class RowsTest {
         // new boots turn behind the second halt of all
         BootsTurnHome boots = Check.laid("h8,15;m8,8,0,0,0,2;");
         bring(boots, 9, 6, 1, 11);
+        bring(boots, 12, 1, 3, 11, 73);
         boots.order(0, 0);
         bring(boots, 9, 6, 1, 1);
+        bring(boots, 12, 1, 3, 1, 3);
         // the other men do not matter
         BootsTurnHome two = Check.laid("h8,15;m3,3,0,0,0,0;m8,8,0,0,0,0;");
         Check.due("bring(1, 9, 6, 0)", two.bring(1, 9, 6, 0), 2);

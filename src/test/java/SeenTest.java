@@ -9,6 +9,7 @@ public final class SeenTest {
         forget();
         oneHalt();
         severalSeen();
+        ofAnotherMan();
         fromNowOn();
         asIfPlain();
         villagesRefused();
@@ -94,6 +95,17 @@ public final class SeenTest {
         boots.seen(0, 2, 6);
         Check.due("villages(0, 0): the west, south-west", boots.villages(0, 0), 67);
         Check.due("villages(0, 1): 0,5", boots.villages(0, 1), 80);
+    }
+
+    private static void ofAnotherMan() {
+        BootsTurnHome boots = Check.laid("h0,0;m8,8,0,0,0,0;m8,8,7,0,0,0;o0,0;o0,0;o0,0;o0,0;o0,0;o0,0;");
+        boots.seen(1, 1, 6);
+        Check.due("villages(0, 0)", boots.villages(0, 0), 256);
+        boots.seen(0, 6, 0);
+        Check.due("villages(0, 0)", boots.villages(0, 0), 33);
+        // one who looks north-west turns to the left for the west, the south-west and the south
+        Check.due("villages(1, 0)", boots.villages(1, 0), 92);
+        Check.due("villages(1, 1)", boots.villages(1, 1), 80);
     }
 
     private static void fromNowOn() {
