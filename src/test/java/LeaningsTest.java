@@ -66,67 +66,61 @@ public final class LeaningsTest {
         }
     }
 
-    private static void storms(BootsTurnHome boots, int x, int y, int odds, int above, int below) {
-        String what = "storms(0, " + x + ", " + y + ", " + odds + ", ";
-        Check.due(what + "0)", boots.storms(0, x, y, odds, 0), above);
-        Check.due(what + "1)", boots.storms(0, x, y, odds, 1), below);
-    }
-
     private static void stormsOfOne() {
         BootsTurnHome boots = Check.laid("h0,0;m8,8,0,0,0,3;o0,2;");
-        storms(boots, 8, 6, 3, 7, 10);
-        storms(boots, 8, 7, 3, 3, 10);
-        storms(boots, 8, 8, 3, 0, 1);
-        storms(boots, 8, 6, 5, 1, 2);
-        storms(boots, 8, 7, 4, 2, 5);
-        storms(boots, 8, 6, 0, 1, 1);
-        storms(boots, 8, 7, 0, 0, 1);
-        storms(boots, 8, 6, 10, 0, 1);
-        storms(boots, 8, 7, 10, 1, 1);
+        Check.storms(boots, 8, 6, 3, 7, 10);
+        Check.storms(boots, 8, 7, 3, 3, 10);
+        Check.storms(boots, 8, 8, 3, 0, 1);
+        Check.storms(boots, 8, 6, 5, 1, 2);
+        Check.storms(boots, 8, 7, 4, 2, 5);
+        Check.storms(boots, 8, 6, 0, 1, 1);
+        Check.storms(boots, 8, 7, 0, 0, 1);
+        Check.storms(boots, 8, 6, 10, 0, 1);
+        Check.storms(boots, 8, 7, 10, 1, 1);
         Check.due("count(3)", boots.count(3), 0);
         boots.noRow();
-        storms(boots, 8, 8, 5, 1, 1);
-        storms(boots, 8, 7, 5, 0, 1);
+        Check.storms(boots, 8, 8, 5, 1, 1);
+        Check.storms(boots, 8, 7, 5, 0, 1);
         // no fewer than no step
         boots.tell(0, 0);
-        storms(boots, 8, 8, 5, 1, 1);
-        storms(boots, 8, 9, 5, 0, 1);
+        Check.storms(boots, 8, 8, 5, 1, 1);
+        Check.storms(boots, 8, 9, 5, 0, 1);
     }
 
     private static void stormsOfSeveral() {
         BootsTurnHome boots = Check.laid("h0,0;m8,8,0,0,0,3;o0,2;o0,2;");
-        storms(boots, 8, 4, 5, 1, 4);
-        storms(boots, 8, 5, 5, 1, 2);
-        storms(boots, 8, 6, 5, 1, 4);
-        storms(boots, 8, 5, 4, 12, 25);
-        storms(boots, 8, 4, 4, 9, 25);
+        Check.storms(boots, 8, 4, 5, 1, 4);
+        Check.storms(boots, 8, 5, 5, 1, 2);
+        Check.storms(boots, 8, 6, 5, 1, 4);
+        Check.storms(boots, 8, 5, 4, 12, 25);
+        Check.storms(boots, 8, 4, 4, 9, 25);
         BootsTurnHome six = Check.laid("h0,0;m8,15,0,0,0,3;o0,1;o0,1;o0,1;o0,1;o0,1;o0,1;");
-        storms(six, 8, 9, 3, 117649, 1000000);
-        storms(six, 8, 15, 3, 729, 1000000);
-        storms(six, 8, 12, 5, 5, 16);
-        storms(six, 8, 9, 0, 1, 1);
+        Check.storms(six, 8, 9, 3, 117649, 1000000);
+        Check.storms(six, 8, 15, 3, 729, 1000000);
+        Check.storms(six, 8, 12, 5, 5, 16);
+        Check.storms(six, 8, 9, 0, 1, 1);
     }
 
     private static void stormsAtTheEdge() {
         BootsTurnHome boots = Check.laid("h0,0;m8,2,0,0,0,3;o0,3;o4,1;");
-        storms(boots, 8, 1, 3, 7, 10);
-        storms(boots, 8, 0, 3, 3, 10);
+        Check.storms(boots, 8, 1, 3, 7, 10);
+        Check.storms(boots, 8, 0, 3, 3, 10);
     }
 
     private static void stormsWithBoots() {
         // behind 8,7 and behind 8,8 he looks north-west, then goes one cell or none
         BootsTurnHome boots = Check.laid("h0,8;m8,8,0,0,0,0;o0,1;o0,1;");
-        storms(boots, 7, 6, 2, 16, 25);
-        storms(boots, 8, 7, 2, 4, 25);
-        storms(boots, 7, 7, 2, 4, 25);
-        storms(boots, 8, 8, 2, 1, 25);
+        Check.storms(boots, 7, 6, 2, 16, 25);
+        Check.storms(boots, 8, 7, 2, 4, 25);
+        Check.storms(boots, 7, 7, 2, 4, 25);
+        Check.storms(boots, 8, 8, 2, 1, 25);
         boots.tie(0, true);
-        storms(boots, 8, 7, 2, 8, 25);
+        Check.storms(boots, 8, 7, 2, 8, 25);
         // new boots turn behind the second halt of all, which is the row's first if one was given
         BootsTurnHome later = Check.laid("h0,8;m8,8,0,0,0,2;o0,1;o0,1;");
-        storms(later, 8, 6, 0, 1, 1);
+        Check.storms(later, 8, 6, 0, 1, 1);
         later.order(0, 0);
-        storms(later, 7, 6, 0, 1, 1);
+        Check.storms(later, 7, 6, 0, 1, 1);
     }
 
     private static void stormsRefused() {

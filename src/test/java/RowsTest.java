@@ -17,7 +17,6 @@ public final class RowsTest {
         pairsOfSix();
         pairsRefused();
         homeward();
-        homewardSixty();
         homewardWithBoots();
         Check.finish("RowsTest");
     }
@@ -98,55 +97,47 @@ public final class RowsTest {
         Check.due("strayed() of exactly 4 apart", Check.laid("h0,0;m8,8,6,0,0,3;m8,8,2,0,0,3;o0,2;").strayed(), NONE);
     }
 
-    private static void bring(BootsTurnHome boots, int x, int y, int... row) {
-        String what = "bring(0, " + x + ", " + y + ", ";
-        Check.due(what + "0)", boots.bring(0, x, y, 0), row.length);
-        for (int k = 1; k <= 3; k++) {
-            Check.due(what + k + ")", boots.bring(0, x, y, k), k <= row.length ? row[k - 1] : NONE);
-        }
-    }
-
     private static void bringOne() {
         BootsTurnHome boots = Check.laid("h0,0;m8,8,0,0,0,3;");
-        bring(boots, 8, 8);
-        bring(boots, 8, 7, 1);
-        bring(boots, 8, 5, 3);
-        bring(boots, 10, 6, 12);
-        bring(boots, 9, 8, 21);
-        bring(boots, 11, 11, 33);
-        bring(boots, 7, 7, 71);
+        Check.brings(boots, 8, 8);
+        Check.brings(boots, 8, 7, 1);
+        Check.brings(boots, 8, 5, 3);
+        Check.brings(boots, 10, 6, 12);
+        Check.brings(boots, 9, 8, 21);
+        Check.brings(boots, 11, 11, 33);
+        Check.brings(boots, 7, 7, 71);
         // at the edge one, two and three steps end alike: the first is one
-        bring(Check.laid("h0,0;m8,1,0,0,0,3;"), 8, 0, 1);
-        bring(Check.laid("h0,0;m8,1,2,0,0,3;"), 8, 0, 61);
+        Check.brings(Check.laid("h0,0;m8,1,0,0,0,3;"), 8, 0, 1);
+        Check.brings(Check.laid("h0,0;m8,1,2,0,0,3;"), 8, 0, 61);
         // one who is there needs no order, though some would leave him there
-        bring(Check.laid("h0,0;m0,0,0,0,0,3;"), 0, 0);
+        Check.brings(Check.laid("h0,0;m0,0,0,0,0,3;"), 0, 0);
     }
 
     private static void bringSeveral() {
         BootsTurnHome boots = Check.laid("h0,0;m8,8,0,0,0,3;");
-        bring(boots, 9, 6, 1, 11);
-        bring(boots, 8, 4, 1, 3);
-        bring(boots, 8, 2, 3, 3);
-        bring(boots, 12, 1, 3, 11, 3);
-        bring(boots, 8, 1, 1, 3, 3);
-        bring(boots, 0, 0, 72, 3, 3);
+        Check.brings(boots, 9, 6, 1, 11);
+        Check.brings(boots, 8, 4, 1, 3);
+        Check.brings(boots, 8, 2, 3, 3);
+        Check.brings(boots, 12, 1, 3, 11, 3);
+        Check.brings(boots, 8, 1, 1, 3, 3);
+        Check.brings(boots, 0, 0, 72, 3, 3);
         Check.due("count(3)", boots.count(3), 0);
         Check.due("place of 0", Check.place(boots, 0), 80800);
     }
 
     private static void bringWithBoots() {
         // behind one step north the boots turn him from the north to the north-east
-        bring(Check.laid("h8,15;m8,8,0,0,0,0;"), 9, 6, 1, 1);
+        Check.brings(Check.laid("h8,15;m8,8,0,0,0,0;"), 9, 6, 1, 1);
         BootsTurnHome tied = Check.laid("h8,15;m8,8,0,0,0,0;");
         tied.tie(0, true);
-        bring(tied, 9, 6, 1, 11);
+        Check.brings(tied, 9, 6, 1, 11);
         // new boots turn behind the second halt of all
         BootsTurnHome boots = Check.laid("h8,15;m8,8,0,0,0,2;");
-        bring(boots, 9, 6, 1, 11);
-        bring(boots, 12, 1, 3, 11, 73);
+        Check.brings(boots, 9, 6, 1, 11);
+        Check.brings(boots, 12, 1, 3, 11, 73);
         boots.order(0, 0);
-        bring(boots, 9, 6, 1, 1);
-        bring(boots, 12, 1, 3, 1, 3);
+        Check.brings(boots, 9, 6, 1, 1);
+        Check.brings(boots, 12, 1, 3, 1, 3);
         // the other men do not matter
         BootsTurnHome two = Check.laid("h8,15;m3,3,0,0,0,0;m8,8,0,0,0,0;");
         Check.due("bring(1, 9, 6, 0)", two.bring(1, 9, 6, 0), 2);
@@ -181,42 +172,25 @@ public final class RowsTest {
         Check.due("bring too far, k 4", Check.laid("h0,0;m0,0,0,0,0,3;").bring(0, 15, 15, 4), BAD);
     }
 
-    private static void pairs(BootsTurnHome boots, int most, int... whose) {
-        Check.due("pairs(-1)", boots.pairs(-1), most);
-        for (int i = 0; i < whose.length; i++) {
-            Check.due("pairs(" + i + ")", boots.pairs(i), whose[i]);
-        }
-        Check.due("pairs(" + whose.length + ")", boots.pairs(whose.length), BAD);
-    }
-
-    /** Men by the homes of their boots, such as 0,1 2,2. */
-    private static BootsTurnHome booted(String... pairs) {
-        StringBuilder text = new StringBuilder("h0,0;h1,1;h2,2;h3,3;");
-        for (String pair : pairs) {
-            text.append("m8,8,0,").append(pair).append(",0;");
-        }
-        return Check.laid(text.toString());
-    }
-
     private static void pairs() {
-        pairs(booted("0,0"), 0, 0);
-        pairs(booted("0,1"), 1, 0);
-        pairs(booted("0,0", "1,1"), 2, 1, 0);
-        pairs(booted("0,1", "1,0"), 2, 0, 1);
-        pairs(booted("0,0", "0,0", "1,0"), 1, 0, 1, 2);
-        pairs(booted("0,0", "1,1", "2,2"), 3, 1, 2, 0);
-        BootsTurnHome boots = booted("0,0", "1,1", "2,2");
+        Check.pairs(Check.booted("00"), 0, 0);
+        Check.pairs(Check.booted("01"), 1, 0);
+        Check.pairs(Check.booted("00 11"), 2, 1, 0);
+        Check.pairs(Check.booted("01 10"), 2, 0, 1);
+        Check.pairs(Check.booted("00 00 10"), 1, 0, 1, 2);
+        Check.pairs(Check.booted("00 11 22"), 3, 1, 2, 0);
+        BootsTurnHome boots = Check.booted("00 11 22");
         boots.swap(0, 1);
-        pairs(boots, 3, 0, 2, 1);
+        Check.pairs(boots, 3, 0, 2, 1);
         Check.due("man(1, 4): nobody was given anything", boots.man(1, 4), 0);
         Check.due("count(7)", boots.count(7), 1);
     }
 
     private static void pairsOfSix() {
-        pairs(booted("0,0", "0,0", "0,0", "1,1", "1,1", "1,1"), 6, 3, 4, 5, 0, 1, 2);
+        Check.pairs(Check.booted("00 00 00 11 11 11"), 6, 3, 4, 5, 0, 1, 2);
         // only two boots of another home for four men: the last two of these get them
-        pairs(booted("0,0", "0,0", "0,0", "0,0", "1,1", "1,1"), 4, 0, 1, 4, 5, 2, 3);
-        pairs(booted("2,2", "2,2", "2,2", "2,2", "2,2", "2,2"), 0, 0, 1, 2, 3, 4, 5);
+        Check.pairs(Check.booted("00 00 00 00 11 11"), 4, 0, 1, 4, 5, 2, 3);
+        Check.pairs(Check.booted("22 22 22 22 22 22"), 0, 0, 1, 2, 3, 4, 5);
     }
 
     private static void pairsRefused() {
@@ -237,19 +211,6 @@ public final class RowsTest {
         for (int bad : new int[] {-1, 5, LEAST, MOST}) {
             Check.due("homeward(" + bad + ")", boots.homeward(bad), BAD);
         }
-    }
-
-    private static void homewardSixty() {
-        // one in new boots who goes round for 61 orders, and for 60 behind the first of them
-        BootsTurnHome boots = Check.laid("h1,13;m0,7,0,0,0,2;");
-        Check.due("homeward(0), 61", boots.homeward(0), NONE);
-        boots.order(0, 1);
-        Check.due("homeward(0), 60", boots.homeward(0), 60);
-        for (int left = 59; left >= 0; left--) {
-            boots.order(0, 1);
-            Check.due("homeward(0)", boots.homeward(0), left);
-        }
-        Check.due("man(0, 8)", boots.man(0, 8), 1);
     }
 
     private static void homewardWithBoots() {
