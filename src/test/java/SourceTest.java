@@ -22,6 +22,7 @@ public final class SourceTest {
         statics(code);
         parameters(code);
         lengths(code);
+        objects(code);
         Check.finish("SourceTest");
     }
 
@@ -72,6 +73,15 @@ public final class SourceTest {
                 }
                 Check.holds("rule 11: some sixty lines: " + lines[start].trim(), end - start <= 60);
             }
+        }
+    }
+
+    /** No call makes an object: each is a field's from the start, or made in a constructor. */
+    private static void objects(String code) {
+        String outsideConstructors = code.replaceAll("(?s)\n( +)(?:public )?(?:BootsTurnHome|Pile)\\([^)]*\\) \\{\n.*?\n\\1\\}\n", "\n");
+        for (String line : outsideConstructors.split("\n")) {
+            boolean isMaking = Pattern.compile("\\bnew\\b|toCharArray|substring|\\.clone\\(|copyOf").matcher(line).find();
+            Check.holds("rule 12: " + line.trim(), !isMaking || line.matches(" +(?:private )?final [A-Za-z\\[\\]]+ [a-zA-Z]+ = new .*"));
         }
     }
 }
